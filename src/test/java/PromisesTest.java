@@ -11,6 +11,7 @@ public final class PromisesTest {
         promise3ByteOf();
         promise4Note();
         promise5Crop();
+        promise5CropThenMore();
         promise5CropRefused();
         promise5CropWrong();
         promise6Near();
@@ -23,6 +24,7 @@ public final class PromisesTest {
         promise9JoinAfterwards();
         promise9JoinWrong();
         promise9JoinRoom();
+        fullPicture();
         promise10At();
         promise11ByteAt();
         promise12Shown();
@@ -156,6 +158,26 @@ public final class PromisesTest {
         told(x, 1, 2, 0, 0, x.told(4), 10, 8, 0, 0);
     }
 
+    private static void promise5CropThenMore() {
+        LossFreeTools x = croppable();
+        x.crop(3, 2, 5, 4);
+        check.due("note after a crop", x.note(1, 1, 90), 3);
+        for (int i = 4; i <= 20; i++) {
+            x.note(2, 3, i);
+        }
+        note(x, 0, 4, 3, 2);
+        note(x, 1, 0, 0, 4);
+        note(x, 2, 1, 1, 90);
+        for (int i = 4; i <= 20; i++) {
+            note(x, i - 1, 2, 3, i);
+        }
+        check.due("tile after a crop", x.tile(4, 0, 1, 1), 3);
+        check.due("byteOf of it", x.byteOf(3, 33), 1);
+        check.due("byteAt(0, 0)", x.byteAt(0, 0), 11);
+        check.due("byteAt(1, 0)", x.byteAt(1, 0), 12);
+        check.due("byteAt(3, 0)", x.byteAt(3, 0), 33);
+    }
+
     private static void promise5CropRefused() {
         int[][] cutting = {{1, 0, 9, 8}, {0, 1, 10, 7}, {0, 0, 7, 8}, {0, 0, 10, 5}, {8, 0, 2, 1},
             {0, 6, 5, 2}, {9, 7, 1, 1}};
@@ -196,6 +218,12 @@ public final class PromisesTest {
         near(x, 0, 0, 12, 3);
         check.due("crop", x.crop(5, 11, 7, 1), -1);
         near(x, 6, 11, 12, 12);
+        x.tile(9, 9, 3, 3);
+        check.due("crop", x.crop(9, 9, 2, 2), -1);
+        near(x, 9, 9, 12, 12);
+        check.due("crop", x.crop(11, 11, 1, 1), -1);
+        near(x, 12, 12, 12, 12);
+        x.turn(0);
         for (int side : new int[] {-1, 4, MIN, MAX}) {
             check.indexOut("near of no side", () -> x.near(side));
         }
@@ -380,6 +408,9 @@ public final class PromisesTest {
         check.due("byteAt(2, 0)", x.byteAt(2, 0), 50);
         check.due("join again", x.join(0), 4);
         told(x, 18, 4, 4, 3, 0, 6, 4, 0, 0);
+        note(x, 0, 6 + 3, 0, 61);
+        note(x, 1, 12 + 5, 3, 60);
+        note(x, 2, 0, 0, 1);
         at(x, 2, 13, 2, 2, 1, 0, 1, 2, 1);
         at(x, 3, 1, 2, 2, 1, 0, 1, 2, 1);
     }
@@ -438,6 +469,31 @@ public final class PromisesTest {
         for (int i = 0; i < notes; i++) {
             x.note(i, 0, i);
         }
+    }
+
+    /** Every call on a picture without room, where a count too far would leave the rows. */
+    private static void fullPicture() {
+        LossFreeTools x = new LossFreeTools(50, 2);
+        fill(x, 40, 20);
+        check.due("shown of no tile", x.shown(45, 1), -1);
+        check.noRoom("tile", () -> x.tile(45, 0, 1, 1));
+        check.noRoom("note", () -> x.note(45, 0, 1));
+        check.due("turn", x.turn(7), 7);
+        at(x, 39, 0, 39, 1, 1, 7, 0, 1, 1);
+        note(x, 19, 0, 19, 19);
+        check.due("turn back", x.turn(7), 0);
+        check.due("write", x.write(), 188 + 40 * 12);
+        check.due("pointer(39)", x.pointer(39), 188 + 39 * 12);
+        check.due("join of an empty one", x.join(0), 40);
+        at(x, 39, 89, 0, 1, 1, 0, 0, 1, 1);
+        check.due("crop to them", x.crop(50, 0, 40, 1), 40);
+        told(x, 40, 1, 40, 20, 188 + 40 * 12, 50, 2, 0, 0);
+        x.swap();
+        x.crop(0, 0, 40, 1);
+        check.due("join to a full one", x.join(3), 40);
+        told(x, 40, 2, 40, 20, 188 + 40 * 12, 40, 1, 0, 0);
+        at(x, 39, 39, 1, 1, 1, 0, 0, 1, 1);
+        check.due("crop to the last", x.crop(39, 1, 1, 1), 1);
     }
 
     private static void promise10At() {
@@ -522,15 +578,15 @@ public final class PromisesTest {
     private static void promise14Write() {
         LossFreeTools x = new LossFreeTools(200, 3);
         x.join(2);
+        x.tile(9, 0, 1, 1);
         x.tile(300, 1, 64, 2);
         x.tile(5, 1, 2, 1);
-        x.tile(9, 0, 1, 1);
-        x.byteOf(0, 255);
-        x.byteOf(0, 254);
-        x.byteOf(2, 9);
+        x.byteOf(1, 255);
+        x.byteOf(1, 254);
+        x.byteOf(0, 9);
         x.note(399, 2, 77);
         x.turn(2);
-        int[] due = {76, 70, 144, 1, 3, 0, 3, 19, 0, 33, 0, 45, 0, 1, 0, 0, 0, 0, 77,
+        int[] due = {76, 70, 144, 1, 3, 0, 3, 45, 0, 19, 0, 33, 0, 1, 0, 0, 0, 0, 77,
             36, 0, 0, 0, 64, 0, 2, 0, 2, 2, 255, 254, 0, 0,
             137, 1, 1, 0, 2, 0, 1, 0, 2, 0, 0, 0,
             134, 1, 2, 0, 1, 0, 1, 0, 2, 1, 9, 0, 0};
@@ -644,7 +700,7 @@ public final class PromisesTest {
         check.due("shown after clear", x.shown(0, 0), -1);
         check.due("tile after clear", x.tile(0, 0, 1, 1), 0);
         at(x, 0, 0, 0, 1, 1, 0, 0, 1, 1);
-        x.turn(1);
+        x.turn(5);
         x.clear();
         check.due("turn after clear", x.turn(1), 1);
         told(x, 4, 6, 0, 0, 0, 6, 4, 0, 0);
