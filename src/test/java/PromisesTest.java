@@ -41,20 +41,20 @@ public final class PromisesTest {
         int[][] asked = {{1, 1, 1, 1}, {200, 200, 200, 200}, {201, 0, 200, 1}, {0, 201, 1, 200},
             {MAX, MIN, 200, 1}, {MIN, MAX, 1, 200}, {7, 9, 7, 9}};
         for (int[] a : asked) {
-            LossFreeTools x = new LossFreeTools(a[0], a[1]);
-            told(x, a[2], a[3], 0, 0, 0, a[2], a[3], 0, 0);
+            Counted x = new Counted(a[0], a[1]);
+            check.told(x, a[2], a[3], 0, 0, 0, a[2], a[3], 0, 0);
         }
         check.due("NONE", LossFreeTools.NONE, -1);
     }
 
     private static void promise2Tile() {
-        LossFreeTools x = new LossFreeTools(70, 66);
+        Counted x = new Counted(70, 66);
         check.due("tile in the corner", x.tile(0, 0, 2, 3), 0);
         check.due("tile beside it", x.tile(2, 0, 1, 1), 1);
         check.due("tile at the far corner", x.tile(69, 65, 1, 1), 2);
         check.due("tile of 64 times 60", x.tile(4, 1, 64, 60), 3);
-        at(x, 0, 0, 0, 2, 3, 0, 0, 2, 3);
-        at(x, 3, 4, 1, 64, 60, 0, 0, 64, 60);
+        check.at(x, 0, 0, 0, 2, 3, 0, 0, 2, 3);
+        check.at(x, 3, 4, 1, 64, 60, 0, 0, 64, 60);
         check.state("tile(1, 2, 1, 1)", () -> x.tile(1, 2, 1, 1));
         check.state("tile(0, 0, 70..)", () -> x.tile(0, 0, 64, 64));
         check.state("tile inside another", () -> x.tile(30, 30, 2, 2));
@@ -71,7 +71,7 @@ public final class PromisesTest {
     }
 
     private static void promise2TileOrderOfExceptions() {
-        LossFreeTools x = new LossFreeTools(42, 1);
+        Counted x = new Counted(42, 1);
         for (int i = 0; i < 40; i++) {
             check.due("tile " + i, x.tile(i, 0, 1, 1), i);
         }
@@ -82,7 +82,7 @@ public final class PromisesTest {
     }
 
     private static void promise3ByteOf() {
-        LossFreeTools x = new LossFreeTools(4, 4);
+        Counted x = new Counted(4, 4);
         check.indexOut("byteOf without tiles", () -> x.byteOf(0, 256));
         x.tile(0, 0, 1, 1);
         x.tile(1, 0, 1, 1);
@@ -101,7 +101,7 @@ public final class PromisesTest {
     }
 
     private static void promise4Note() {
-        LossFreeTools x = new LossFreeTools(3, 2);
+        Counted x = new Counted(3, 2);
         check.due("note(0, 0)", x.note(0, 0, 0), 1);
         check.due("note(2, 1)", x.note(2, 1, 255), 2);
         check.due("note there again", x.note(2, 1, 7), 3);
@@ -120,8 +120,8 @@ public final class PromisesTest {
         check.due("notes", x.told(3), 20);
     }
 
-    private static LossFreeTools croppable() {
-        LossFreeTools x = new LossFreeTools(10, 8);
+    private static Counted croppable() {
+        Counted x = new Counted(10, 8);
         x.tile(0, 0, 3, 2);
         x.tile(6, 4, 2, 2);
         x.tile(3, 2, 3, 2);
@@ -139,37 +139,37 @@ public final class PromisesTest {
     }
 
     private static void promise5Crop() {
-        LossFreeTools x = croppable();
+        Counted x = croppable();
         x.write();
         check.due("crop", x.crop(3, 2, 5, 4), 3);
-        told(x, 5, 4, 3, 2, x.told(4), 10, 8, 0, 0);
-        at(x, 0, 3, 2, 2, 2, 0, 1, 2, 2);
-        at(x, 1, 0, 0, 3, 2, 0, 1, 3, 2);
-        at(x, 2, 0, 2, 1, 1, 0, 0, 1, 1);
+        check.told(x, 5, 4, 3, 2, x.told(4), 10, 8, 0, 0);
+        check.at(x, 0, 3, 2, 2, 2, 0, 1, 2, 2);
+        check.at(x, 1, 0, 0, 3, 2, 0, 1, 3, 2);
+        check.at(x, 2, 0, 2, 1, 1, 0, 0, 1, 1);
         check.due("byteAt(0, 0)", x.byteAt(0, 0), 11);
         check.due("byteAt(1, 0)", x.byteAt(1, 0), 12);
-        note(x, 0, 4, 3, 2);
-        note(x, 1, 0, 0, 4);
+        check.note(x, 0, 4, 3, 2);
+        check.note(x, 1, 0, 0, 4);
         check.due("crop to all", x.crop(0, 0, 5, 4), 3);
         check.due("a new tile is shown as it is", x.tile(4, 0, 1, 1), 3);
         check.due("bytes of the new tile", x.at(3, 5), 0);
         check.due("crop to the new tile", x.crop(3, 0, 2, 2), 1);
         check.due("crop to no tile", x.crop(0, 0, 1, 2), 0);
-        told(x, 1, 2, 0, 0, x.told(4), 10, 8, 0, 0);
+        check.told(x, 1, 2, 0, 0, x.told(4), 10, 8, 0, 0);
     }
 
     private static void promise5CropThenMore() {
-        LossFreeTools x = croppable();
+        Counted x = croppable();
         x.crop(3, 2, 5, 4);
         check.due("note after a crop", x.note(1, 1, 90), 3);
         for (int i = 4; i <= 20; i++) {
             x.note(2, 3, i);
         }
-        note(x, 0, 4, 3, 2);
-        note(x, 1, 0, 0, 4);
-        note(x, 2, 1, 1, 90);
+        check.note(x, 0, 4, 3, 2);
+        check.note(x, 1, 0, 0, 4);
+        check.note(x, 2, 1, 1, 90);
         for (int i = 4; i <= 20; i++) {
-            note(x, i - 1, 2, 3, i);
+            check.note(x, i - 1, 2, 3, i);
         }
         check.due("tile after a crop", x.tile(4, 0, 1, 1), 3);
         check.due("byteOf of it", x.byteOf(3, 33), 1);
@@ -183,46 +183,46 @@ public final class PromisesTest {
             {0, 6, 5, 2}, {9, 7, 1, 1}};
         boolean[] refused = {true, true, true, true, true, true, false};
         for (int i = 0; i < cutting.length; i++) {
-            LossFreeTools x = croppable();
+            Counted x = croppable();
             int[] c = cutting[i];
             check.due("crop " + i, x.crop(c[0], c[1], c[2], c[3]), refused[i] ? -1 : 0);
             if (refused[i]) {
-                told(x, 10, 8, 4, 6, 0, 10, 8, 0, 0);
-                at(x, 3, 3, 4, 1, 1, 0, 0, 1, 1);
-                note(x, 5, 7, 6, 6);
+                check.told(x, 10, 8, 4, 6, 0, 10, 8, 0, 0);
+                check.at(x, 3, 3, 4, 1, 1, 0, 0, 1, 1);
+                check.note(x, 5, 7, 6, 6);
             }
         }
     }
 
     private static void promise5CropWrong() {
-        LossFreeTools x = croppable();
+        Counted x = croppable();
         int[][] wrong = {{0, 0, 0, 1}, {0, 0, 1, 0}, {0, 0, -1, 1}, {-1, 0, 2, 1}, {0, -1, 1, 2},
             {0, 0, 11, 1}, {0, 0, 1, 9}, {10, 0, 1, 1}, {0, 8, 1, 1}, {MAX, 0, MAX, 1}, {0, MAX, 1, MAX},
             {MIN, MIN, MIN, MIN}, {5, 5, MAX, MAX}, {1, 1, MIN, 1}};
         for (int[] w : wrong) {
             check.argument("crop wrong", () -> x.crop(w[0], w[1], w[2], w[3]));
         }
-        told(x, 10, 8, 4, 6, 0, 10, 8, 0, 0);
+        check.told(x, 10, 8, 4, 6, 0, 10, 8, 0, 0);
     }
 
     private static void promise6Near() {
-        LossFreeTools x = new LossFreeTools(12, 12);
+        Counted x = new Counted(12, 12);
         check.state("near of a new object", () -> x.near(0));
         x.tile(2, 3, 4, 5);
         x.tile(6, 8, 3, 1);
         check.due("crop", x.crop(4, 4, 3, 3), -1);
-        near(x, 2, 3, 6, 8);
+        check.near(x, 2, 3, 6, 8);
         check.due("crop", x.crop(3, 7, 5, 1), -1);
-        near(x, 2, 8, 9, 8);
+        check.near(x, 2, 8, 9, 8);
         check.due("crop", x.crop(0, 0, 12, 5), -1);
-        near(x, 0, 0, 12, 3);
+        check.near(x, 0, 0, 12, 3);
         check.due("crop", x.crop(5, 11, 7, 1), -1);
-        near(x, 6, 11, 12, 12);
+        check.near(x, 6, 11, 12, 12);
         x.tile(9, 9, 3, 3);
         check.due("crop", x.crop(9, 9, 2, 2), -1);
-        near(x, 9, 9, 12, 12);
+        check.near(x, 9, 9, 12, 12);
         check.due("crop", x.crop(11, 11, 1, 1), -1);
-        near(x, 12, 12, 12, 12);
+        check.near(x, 12, 12, 12, 12);
         x.turn(0);
         for (int side : new int[] {-1, 4, MIN, MAX}) {
             check.indexOut("near of no side", () -> x.near(side));
@@ -232,8 +232,8 @@ public final class PromisesTest {
         check.state("near of a crop that was done", () -> x.near(0));
     }
 
-    private static LossFreeTools refusedOne() {
-        LossFreeTools x = new LossFreeTools(6, 6);
+    private static Counted refusedOne() {
+        Counted x = new Counted(6, 6);
         x.tile(0, 0, 2, 2);
         x.crop(1, 0, 5, 6);
         return x;
@@ -241,7 +241,7 @@ public final class PromisesTest {
 
     private static void promise6NearForgotten() {
         for (int change = 0; change < 7; change++) {
-            LossFreeTools x = refusedOne();
+            Counted x = refusedOne();
             check.due("near", x.near(0), 0);
             switch (change) {
                 case 0 -> x.tile(4, 4, 1, 1);
@@ -257,7 +257,7 @@ public final class PromisesTest {
     }
 
     private static void promise6NearKept() {
-        LossFreeTools x = refusedOne();
+        Counted x = refusedOne();
         check.argument("tile wrong", () -> x.tile(0, 0, 0, 0));
         check.state("tile over another", () -> x.tile(1, 1, 1, 1));
         check.argument("turn wrong", () -> x.turn(8));
@@ -266,7 +266,7 @@ public final class PromisesTest {
         check.due("note", x.note(0, 0, 1), 1);
         x.write();
         x.shown(0, 0);
-        near(x, 0, 0, 6, 6);
+        check.near(x, 0, 0, 6, 6);
     }
 
     /** Where a sample comes to, and what size there is then, straight from the terms. */
@@ -283,13 +283,13 @@ public final class PromisesTest {
 
     private static void promise7Turn() {
         for (int way = 0; way < 8; way++) {
-            LossFreeTools x = new LossFreeTools(7, 5);
+            Counted x = new Counted(7, 5);
             x.tile(1, 2, 3, 2);
             x.note(5, 1, 8);
             check.due("turn", x.turn(way), way);
             int[] p = placed(way, 5, 1, 7, 5);
-            told(x, p[2], p[3], 1, 1, 0, 7, 5, 0, 0);
-            note(x, 0, p[0], p[1], 8);
+            check.told(x, p[2], p[3], 1, 1, 0, 7, 5, 0, 0);
+            check.note(x, 0, p[0], p[1], 8);
             check.due("way", x.at(0, 4), way);
             check.due("own width", x.at(0, 6), 3);
             check.due("own height", x.at(0, 7), 2);
@@ -300,7 +300,7 @@ public final class PromisesTest {
                 }
             }
         }
-        LossFreeTools x = new LossFreeTools(7, 5);
+        Counted x = new Counted(7, 5);
         for (int way : new int[] {-1, 8, MIN, MAX}) {
             check.argument("turn wrong", () -> x.turn(way));
         }
@@ -310,7 +310,7 @@ public final class PromisesTest {
     private static void promise7TurnWayOfAll() {
         for (int first = 0; first < 8; first++) {
             for (int second = 0; second < 8; second++) {
-                LossFreeTools x = new LossFreeTools(3, 2);
+                Counted x = new Counted(3, 2);
                 x.tile(0, 0, 3, 2);
                 x.turn(first);
                 x.crop(0, 0, x.told(0), x.told(1));
@@ -324,7 +324,7 @@ public final class PromisesTest {
                 check.due(first + " and " + second + ": shown", x.shown(p[0], p[1]), 1);
             }
         }
-        LossFreeTools x = new LossFreeTools(3, 3);
+        Counted x = new Counted(3, 3);
         x.turn(1);
         x.tile(0, 0, 1, 2);
         check.due("a tile made later", x.at(0, 4), 0);
@@ -341,25 +341,25 @@ public final class PromisesTest {
     }
 
     private static void promise8Swap() {
-        LossFreeTools x = new LossFreeTools(5, 4);
+        Counted x = new Counted(5, 4);
         x.tile(0, 0, 2, 1);
         x.tile(2, 0, 2, 1);
         x.byteOf(1, 99);
         x.note(4, 3, 7);
         x.turn(1);
         check.due("swap", x.swap(), 0);
-        told(x, 5, 4, 0, 0, 0, 4, 5, 2, 1);
+        check.told(x, 5, 4, 0, 0, 0, 4, 5, 2, 1);
         x.tile(0, 0, 1, 1);
         check.due("swap back", x.swap(), 2);
-        told(x, 4, 5, 2, 1, 0, 5, 4, 1, 0);
+        check.told(x, 4, 5, 2, 1, 0, 5, 4, 1, 0);
         check.due("byteAt(1, 0)", x.byteAt(1, 0), 99);
-        note(x, 0, 0, 4, 7);
+        check.note(x, 0, 0, 4, 7);
         check.due("way since then", x.turn(0), 0);
         check.due("the tile's own", x.at(1, 4), 1);
     }
 
-    private static LossFreeTools joinable() {
-        LossFreeTools x = new LossFreeTools(6, 4);
+    private static Counted joinable() {
+        Counted x = new Counted(6, 4);
         x.tile(1, 2, 2, 1);
         x.byteOf(0, 50);
         x.note(5, 3, 60);
@@ -376,66 +376,66 @@ public final class PromisesTest {
         int[][] ours = {{6, 0}, {0, 4}, {0, 0}, {0, 0}};
         int[][] theirs = {{0, 0}, {0, 0}, {6, 0}, {0, 4}};
         for (int side = 0; side < 4; side++) {
-            LossFreeTools x = joinable();
+            Counted x = joinable();
             check.due("join", x.join(side), 3);
-            told(x, sizes[side][0], sizes[side][1], 3, 2, 0, 6, 4, 0, 0);
+            check.told(x, sizes[side][0], sizes[side][1], 3, 2, 0, 6, 4, 0, 0);
             int ox = ours[side][0];
             int oy = ours[side][1];
             int tx = theirs[side][0];
             int ty = theirs[side][1];
-            at(x, 0, ox, oy, 1, 3, 0, 0, 1, 3);
-            at(x, 1, ox + 2, oy + 1, 3, 1, 0, 1, 3, 1);
-            at(x, 2, tx + 1, ty + 2, 2, 1, 0, 1, 2, 1);
+            check.at(x, 0, ox, oy, 1, 3, 0, 0, 1, 3);
+            check.at(x, 1, ox + 2, oy + 1, 3, 1, 0, 1, 3, 1);
+            check.at(x, 2, tx + 1, ty + 2, 2, 1, 0, 1, 2, 1);
             check.due("byteAt(1, 0)", x.byteAt(1, 0), 51);
             check.due("byteAt(2, 0)", x.byteAt(2, 0), 50);
-            note(x, 0, ox + 3, oy + 3, 61);
-            note(x, 1, tx + 5, ty + 3, 60);
+            check.note(x, 0, ox + 3, oy + 3, 61);
+            check.note(x, 1, tx + 5, ty + 3, 60);
         }
     }
 
     private static void promise9JoinAfterwards() {
-        LossFreeTools x = joinable();
+        Counted x = joinable();
         x.turn(6);
         check.due("join", x.join(2), 3);
         check.due("way since then", x.turn(0), 0);
-        at(x, 0, 0, 1, 1, 3, 6, 0, 1, 3);
+        check.at(x, 0, 0, 1, 1, 3, 6, 0, 1, 3);
         x.swap();
         check.due("a tile of the emptied one", x.tile(1, 2, 2, 1), 0);
-        at(x, 0, 1, 2, 2, 1, 0, 0, 2, 1);
+        check.at(x, 0, 1, 2, 2, 1, 0, 0, 2, 1);
         check.due("a note of the emptied one", x.note(0, 0, 1), 1);
         x.byteOf(0, 3);
         x.swap();
         check.due("byteAt(2, 0)", x.byteAt(2, 0), 50);
         check.due("join again", x.join(0), 4);
-        told(x, 18, 4, 4, 3, 0, 6, 4, 0, 0);
-        note(x, 0, 6 + 3, 0, 61);
-        note(x, 1, 12 + 5, 3, 60);
-        note(x, 2, 0, 0, 1);
-        at(x, 2, 13, 2, 2, 1, 0, 1, 2, 1);
-        at(x, 3, 1, 2, 2, 1, 0, 1, 2, 1);
+        check.told(x, 18, 4, 4, 3, 0, 6, 4, 0, 0);
+        check.note(x, 0, 6 + 3, 0, 61);
+        check.note(x, 1, 12 + 5, 3, 60);
+        check.note(x, 2, 0, 0, 1);
+        check.at(x, 2, 13, 2, 2, 1, 0, 1, 2, 1);
+        check.at(x, 3, 1, 2, 2, 1, 0, 1, 2, 1);
     }
 
     private static void promise9JoinWrong() {
-        LossFreeTools x = joinable();
+        Counted x = joinable();
         for (int side : new int[] {-1, 4, MIN, MAX}) {
             check.indexOut("join of no side", () -> x.join(side));
         }
         x.crop(0, 0, 5, 4);
         check.state("join above, not as wide", () -> x.join(1));
         check.state("join below, not as wide", () -> x.join(3));
-        told(x, 5, 4, 2, 1, 0, 6, 4, 1, 1);
+        check.told(x, 5, 4, 2, 1, 0, 6, 4, 1, 1);
         check.due("join to the left, as high", x.join(0), 3);
-        told(x, 11, 4, 3, 2, 0, 6, 4, 0, 0);
-        LossFreeTools y = joinable();
+        check.told(x, 11, 4, 3, 2, 0, 6, 4, 0, 0);
+        Counted y = joinable();
         y.crop(0, 0, 6, 3);
         check.state("join left, not as high", () -> y.join(0));
         check.state("join right, not as high", () -> y.join(2));
         check.due("join below, as wide", y.join(3), 3);
-        told(y, 6, 7, 3, 1, 0, 6, 4, 0, 0);
+        check.told(y, 6, 7, 3, 1, 0, 6, 4, 0, 0);
     }
 
     private static void promise9JoinRoom() {
-        LossFreeTools x = new LossFreeTools(200, 200);
+        Counted x = new Counted(200, 200);
         check.due("join to 400 wide", x.join(2), 0);
         check.noRoom("join to 600 wide", () -> x.join(0));
         check.state("not alike comes first", () -> x.join(1));
@@ -453,16 +453,16 @@ public final class PromisesTest {
         x.swap();
         fill(x, 21, 0);
         check.noRoom("join to 41 tiles", () -> x.join(0));
-        told(x, 200, 200, 21, 0, 0, 200, 200, 20, 0);
+        check.told(x, 200, 200, 21, 0, 0, 200, 200, 20, 0);
         x.clear();
         fill(x, 1, 10);
         x.swap();
         fill(x, 1, 11);
         check.noRoom("join to 21 notes", () -> x.join(0));
-        told(x, 200, 200, 1, 11, 0, 200, 200, 1, 10);
+        check.told(x, 200, 200, 1, 11, 0, 200, 200, 1, 10);
     }
 
-    private static void fill(LossFreeTools x, int tiles, int notes) {
+    private static void fill(Counted x, int tiles, int notes) {
         for (int i = 0; i < tiles; i++) {
             x.tile(i, 0, 1, 1);
         }
@@ -473,36 +473,36 @@ public final class PromisesTest {
 
     /** Every call on a picture without room, where a count too far would leave the rows. */
     private static void fullPicture() {
-        LossFreeTools x = new LossFreeTools(50, 2);
+        Counted x = new Counted(50, 2);
         fill(x, 40, 20);
         check.due("shown of no tile", x.shown(45, 1), -1);
         check.noRoom("tile", () -> x.tile(45, 0, 1, 1));
         check.noRoom("note", () -> x.note(45, 0, 1));
         check.due("turn", x.turn(7), 7);
-        at(x, 39, 0, 39, 1, 1, 7, 0, 1, 1);
-        note(x, 19, 0, 19, 19);
+        check.at(x, 39, 0, 39, 1, 1, 7, 0, 1, 1);
+        check.note(x, 19, 0, 19, 19);
         check.due("turn back", x.turn(7), 0);
         check.due("write", x.write(), 188 + 40 * 12);
         check.due("pointer(39)", x.pointer(39), 188 + 39 * 12);
         check.due("join of an empty one", x.join(0), 40);
-        at(x, 39, 89, 0, 1, 1, 0, 0, 1, 1);
+        check.at(x, 39, 89, 0, 1, 1, 0, 0, 1, 1);
         check.due("crop to them", x.crop(50, 0, 40, 1), 40);
-        told(x, 40, 1, 40, 20, 188 + 40 * 12, 50, 2, 0, 0);
+        check.told(x, 40, 1, 40, 20, 188 + 40 * 12, 50, 2, 0, 0);
         x.swap();
         x.crop(0, 0, 40, 1);
         check.due("join to a full one", x.join(3), 40);
-        told(x, 40, 2, 40, 20, 188 + 40 * 12, 40, 1, 0, 0);
-        at(x, 39, 39, 1, 1, 1, 0, 0, 1, 1);
+        check.told(x, 40, 2, 40, 20, 188 + 40 * 12, 40, 1, 0, 0);
+        check.at(x, 39, 39, 1, 1, 1, 0, 0, 1, 1);
         check.due("crop to the last", x.crop(39, 1, 1, 1), 1);
     }
 
     private static void promise10At() {
-        LossFreeTools x = new LossFreeTools(9, 9);
+        Counted x = new Counted(9, 9);
         check.indexOut("at without tiles", () -> x.at(0, 8));
         x.tile(1, 2, 3, 4);
         x.byteOf(0, 5);
         x.turn(1);
-        at(x, 0, 3, 1, 4, 3, 1, 1, 3, 4);
+        check.at(x, 0, 3, 1, 4, 3, 1, 1, 3, 4);
         for (int what : new int[] {-1, 8, MIN, MAX}) {
             check.due("at of another what", x.at(0, what), -1);
         }
@@ -512,7 +512,7 @@ public final class PromisesTest {
     }
 
     private static void promise11ByteAt() {
-        LossFreeTools x = new LossFreeTools(9, 9);
+        Counted x = new Counted(9, 9);
         check.indexOut("byteAt without tiles", () -> x.byteAt(0, 0));
         x.tile(0, 0, 1, 1);
         x.tile(1, 0, 1, 1);
@@ -532,7 +532,7 @@ public final class PromisesTest {
     }
 
     private static void promise12Shown() {
-        LossFreeTools x = new LossFreeTools(200, 70);
+        Counted x = new Counted(200, 70);
         x.tile(0, 0, 1, 1);
         x.tile(100, 2, 64, 64);
         check.due("shown of tile 0", x.shown(0, 0), 0);
@@ -553,12 +553,12 @@ public final class PromisesTest {
     }
 
     private static void promise13NoteAt() {
-        LossFreeTools x = new LossFreeTools(9, 5);
+        Counted x = new Counted(9, 5);
         check.indexOut("noteAt without notes", () -> x.noteAt(0, 3));
         x.note(8, 4, 255);
         x.note(1, 2, 0);
-        note(x, 0, 8, 4, 255);
-        note(x, 1, 1, 2, 0);
+        check.note(x, 0, 8, 4, 255);
+        check.note(x, 1, 1, 2, 0);
         for (int what : new int[] {-1, 3, MIN, MAX}) {
             check.due("noteAt of another what", x.noteAt(0, what), -1);
         }
@@ -576,7 +576,7 @@ public final class PromisesTest {
     }
 
     private static void promise14Write() {
-        LossFreeTools x = new LossFreeTools(200, 3);
+        Counted x = new Counted(200, 3);
         x.join(2);
         x.tile(9, 0, 1, 1);
         x.tile(300, 1, 64, 2);
@@ -604,7 +604,7 @@ public final class PromisesTest {
     }
 
     private static void promise14WriteFull() {
-        LossFreeTools x = new LossFreeTools(200, 1);
+        Counted x = new Counted(200, 1);
         fill(x, 40, 20);
         for (int i = 0; i < 240; i++) {
             x.byteOf(i / 12, 255);
@@ -618,7 +618,7 @@ public final class PromisesTest {
     }
 
     private static void promise15StreamAt() {
-        LossFreeTools x = new LossFreeTools(6, 4);
+        Counted x = new Counted(6, 4);
         check.indexOut("streamAt before any", () -> x.streamAt(0));
         check.due("write of an empty one", x.write(), 8);
         int[] due = {76, 70, 6, 0, 4, 0, 0, 0};
@@ -642,7 +642,7 @@ public final class PromisesTest {
     }
 
     private static void promise16Pointer() {
-        LossFreeTools x = new LossFreeTools(9, 9);
+        Counted x = new Counted(9, 9);
         check.indexOut("pointer without tiles", () -> x.pointer(0));
         x.tile(4, 4, 1, 1);
         check.due("pointer of one", x.pointer(0), 10);
@@ -668,7 +668,7 @@ public final class PromisesTest {
     }
 
     private static void promise17Told() {
-        LossFreeTools x = new LossFreeTools(5, 3);
+        Counted x = new Counted(5, 3);
         x.tile(0, 0, 1, 1);
         x.tile(1, 0, 1, 1);
         x.note(0, 0, 0);
@@ -679,54 +679,30 @@ public final class PromisesTest {
         x.note(0, 0, 0);
         x.note(0, 0, 0);
         x.note(0, 0, 0);
-        told(x, 5, 3, 1, 3, 8 + 4 + 5 + 24, 3, 5, 2, 1);
+        check.told(x, 5, 3, 1, 3, 8 + 4 + 5 + 24, 3, 5, 2, 1);
         for (int what : new int[] {-1, 9, MIN, MAX}) {
             check.due("told of another what", x.told(what), -1);
         }
     }
 
     private static void promise18Clear() {
-        LossFreeTools x = joinable();
+        Counted x = joinable();
         x.turn(1);
         x.write();
         x.swap();
         x.turn(3);
         x.crop(0, 0, 1, 1);
         x.clear();
-        told(x, 6, 4, 0, 0, 0, 6, 4, 0, 0);
+        check.told(x, 6, 4, 0, 0, 0, 6, 4, 0, 0);
         check.indexOut("streamAt after clear", () -> x.streamAt(0));
         check.indexOut("at after clear", () -> x.at(0, 0));
         check.indexOut("noteAt after clear", () -> x.noteAt(0, 0));
         check.due("shown after clear", x.shown(0, 0), -1);
         check.due("tile after clear", x.tile(0, 0, 1, 1), 0);
-        at(x, 0, 0, 0, 1, 1, 0, 0, 1, 1);
+        check.at(x, 0, 0, 0, 1, 1, 0, 0, 1, 1);
         x.turn(5);
         x.clear();
         check.due("turn after clear", x.turn(1), 1);
-        told(x, 4, 6, 0, 0, 0, 6, 4, 0, 0);
-    }
-
-    private static void told(LossFreeTools x, int... due) {
-        for (int what = 0; what < due.length; what++) {
-            check.due("told(" + what + ")", x.told(what), due[what]);
-        }
-    }
-
-    private static void at(LossFreeTools x, int tile, int... due) {
-        for (int what = 0; what < due.length; what++) {
-            check.due("at(" + tile + ", " + what + ")", x.at(tile, what), due[what]);
-        }
-    }
-
-    private static void note(LossFreeTools x, int k, int... due) {
-        for (int what = 0; what < due.length; what++) {
-            check.due("noteAt(" + k + ", " + what + ")", x.noteAt(k, what), due[what]);
-        }
-    }
-
-    private static void near(LossFreeTools x, int... due) {
-        for (int side = 0; side < due.length; side++) {
-            check.due("near(" + side + ")", x.near(side), due[side]);
-        }
+        check.told(x, 4, 6, 0, 0, 0, 6, 4, 0, 0);
     }
 }
