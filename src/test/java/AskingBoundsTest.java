@@ -9,7 +9,6 @@ import java.util.function.ToIntFunction;
 public final class AskingBoundsTest {
     private static final int MIN = Integer.MIN_VALUE;
     private static final int MAX = Integer.MAX_VALUE;
-    private static final String INDEX = "throws.IndexOutOfBoundsException";
     private static final List<Supplier<Counted>> OBJECTS = List.of(
             () -> new Counted(1, 1), () -> new Counted(200, 200), Made::rich, Made::richAndQuiet, Made::full,
             Made::unlike, () -> Made.longest(true), () -> Made.longest(false));
@@ -89,7 +88,7 @@ public final class AskingBoundsTest {
         check.promise(10, "A call that throws changes nothing");
         Everything.unchanged(check, Made::rich, "at(0, 0)", x -> x.at(0, 0), "6");
         Everything.unchanged(check, Made::rich, "at(0, 8)", x -> x.at(0, 8), "-1");
-        Everything.unchanged(check, Made::rich, "at(3, 0)", x -> x.at(3, 0), INDEX);
+        Everything.unchanged(check, Made::rich, "at(3, 0)", x -> x.at(3, 0), Check.INDEX);
     }
 
     private static void promise11NoneAndTwelve() {
@@ -134,8 +133,8 @@ public final class AskingBoundsTest {
     private static void promise11ChangesNothing() {
         check.promise(11, "A call that throws changes nothing");
         Everything.unchanged(check, Made::rich, "byteAt(0, 1)", x -> x.byteAt(0, 1), "255");
-        Everything.unchanged(check, Made::rich, "byteAt(0, 2)", x -> x.byteAt(0, 2), INDEX);
-        Everything.unchanged(check, Made::rich, "byteAt(3, 0)", x -> x.byteAt(3, 0), INDEX);
+        Everything.unchanged(check, Made::rich, "byteAt(0, 2)", x -> x.byteAt(0, 2), Check.INDEX);
+        Everything.unchanged(check, Made::rich, "byteAt(3, 0)", x -> x.byteAt(3, 0), Check.INDEX);
     }
 
     private static void promise12LeastAndGreatest() {
@@ -196,8 +195,8 @@ public final class AskingBoundsTest {
     private static void promise12ChangesNothing() {
         check.promise(12, "A call that throws changes nothing");
         Everything.unchanged(check, Made::rich, "shown(0, 0)", x -> x.shown(0, 0), "-1");
-        Everything.unchanged(check, Made::rich, "shown(9, 0)", x -> x.shown(9, 0), INDEX);
-        Everything.unchanged(check, Made::rich, "shown(0, MIN)", x -> x.shown(0, MIN), INDEX);
+        Everything.unchanged(check, Made::rich, "shown(9, 0)", x -> x.shown(9, 0), Check.INDEX);
+        Everything.unchanged(check, Made::rich, "shown(0, MIN)", x -> x.shown(0, MIN), Check.INDEX);
     }
 
     private static void promise13EveryWhat() {
@@ -237,7 +236,7 @@ public final class AskingBoundsTest {
         check.promise(13, "A call that throws changes nothing");
         Everything.unchanged(check, Made::rich, "noteAt(0, 2)", x -> x.noteAt(0, 2), "255");
         Everything.unchanged(check, Made::rich, "noteAt(0, 3)", x -> x.noteAt(0, 3), "-1");
-        Everything.unchanged(check, Made::rich, "noteAt(2, 0)", x -> x.noteAt(2, 0), INDEX);
+        Everything.unchanged(check, Made::rich, "noteAt(2, 0)", x -> x.noteAt(2, 0), Check.INDEX);
     }
 
     private static int answer(Map<String, String> answers, String call) {
@@ -310,7 +309,7 @@ public final class AskingBoundsTest {
         for (int i = 0; i < due.size(); i++) {
             check.due(of + ": streamAt(" + i + ")", answer(answers, "write() and streamAt(" + i + ")"), due.get(i));
         }
-        check.due(of + ": behind the end", answers.get("write() and streamAt(" + due.size() + ")"), INDEX);
+        check.due(of + ": behind the end", answers.get("write() and streamAt(" + due.size() + ")"), Check.INDEX);
         for (int tile = 0; tile < answer(answers, "told(2)"); tile++) {
             check.due(of + ": pointer(" + tile + ")", answer(answers, "pointer(" + tile + ")"),
                     due.get(7 + 2 * tile) + 256 * due.get(8 + 2 * tile));
@@ -338,7 +337,7 @@ public final class AskingBoundsTest {
     }
 
     private static void promise14NoTilesNoNotes() {
-        check.promise(14, "the bytes 76, 70; width and height; how many TILES there are, a byte; how many NOTES, a byte");
+        check.promise(14, "the bytes 76, 70; width and height; how many TILES there are, a byte; how many NOTES");
         Counted x = new Counted(1, 200);
         check.due("write", x.write(), 8);
         bytesAre(x, 76, 70, 1, 0, 200, 0, 0, 0);
@@ -558,7 +557,8 @@ public final class AskingBoundsTest {
             change.applyAsInt(x);
             check.due("length after change " + i, x.told(4), 28);
             for (int k = 0; k < 28; k++) {
-                check.due("streamAt(" + k + ") after change " + i, x.streamAt(k), answer(before, "streamAt(" + k + ")"));
+                String call = "streamAt(" + k + ")";
+                check.due(call + " after change " + i, x.streamAt(k), answer(before, call));
             }
             check.indexOut("behind it", () -> x.streamAt(28));
         }
@@ -576,9 +576,9 @@ public final class AskingBoundsTest {
     private static void promise15ChangesNothing() {
         check.promise(15, "A call that throws changes nothing");
         Everything.unchanged(check, Made::rich, "streamAt(0)", x -> x.streamAt(0), "76");
-        Everything.unchanged(check, Made::rich, "streamAt(28)", x -> x.streamAt(28), INDEX);
-        Everything.unchanged(check, Made::rich, "streamAt(-1)", x -> x.streamAt(-1), INDEX);
-        Everything.unchanged(check, Made::full, "streamAt(0)", x -> x.streamAt(0), INDEX);
+        Everything.unchanged(check, Made::rich, "streamAt(28)", x -> x.streamAt(28), Check.INDEX);
+        Everything.unchanged(check, Made::rich, "streamAt(-1)", x -> x.streamAt(-1), Check.INDEX);
+        Everything.unchanged(check, Made::full, "streamAt(0)", x -> x.streamAt(0), Check.INDEX);
     }
 
     private static void promise16NoSuchTile() {
@@ -647,8 +647,8 @@ public final class AskingBoundsTest {
     private static void promise16ChangesNothing() {
         check.promise(16, "A call that throws changes nothing");
         Everything.unchanged(check, Made::rich, "pointer(0)", x -> x.pointer(0), "24");
-        Everything.unchanged(check, Made::rich, "pointer(3)", x -> x.pointer(3), INDEX);
-        Everything.unchanged(check, Made::rich, "pointer(-1)", x -> x.pointer(-1), INDEX);
+        Everything.unchanged(check, Made::rich, "pointer(3)", x -> x.pointer(3), Check.INDEX);
+        Everything.unchanged(check, Made::rich, "pointer(-1)", x -> x.pointer(-1), Check.INDEX);
     }
 
     private static void promise17EveryWhat() {

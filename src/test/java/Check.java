@@ -1,7 +1,13 @@
 import java.util.function.IntSupplier;
+import java.util.function.IntUnaryOperator;
 
 /** Compares answers with those that are due, prints the wrong ones, and counts them. */
 final class Check {
+    static final String INDEX = "throws.IndexOutOfBoundsException";
+    static final String ARGUMENT = "throws.IllegalArgumentException";
+    static final String STATE = "throws.IllegalStateException";
+    static final String NO_ROOM = "throws.UnsupportedOperationException";
+
     private String sentence = "";
     private boolean sentenceLooked = true;
     private int wrong = 0;
@@ -36,46 +42,45 @@ final class Check {
     }
 
     void indexOut(String call, IntSupplier made) {
-        due(call, answerOf(made), "throws.IndexOutOfBoundsException");
+        due(call, answerOf(made), INDEX);
     }
 
     void argument(String call, IntSupplier made) {
-        due(call, answerOf(made), "throws.IllegalArgumentException");
+        due(call, answerOf(made), ARGUMENT);
     }
 
     void state(String call, IntSupplier made) {
-        due(call, answerOf(made), "throws.IllegalStateException");
+        due(call, answerOf(made), STATE);
     }
 
     void noRoom(String call, IntSupplier made) {
-        due(call, answerOf(made), "throws.UnsupportedOperationException");
+        due(call, answerOf(made), NO_ROOM);
     }
 
     /** told(0), told(1) and so on. */
     void told(Counted x, int... due) {
-        for (int what = 0; what < due.length; what++) {
-            due("told(" + what + ")", x.told(what), due[what]);
-        }
+        each("told(", x::told, due);
     }
 
     /** at(tile, 0), at(tile, 1) and so on. */
     void at(Counted x, int tile, int... due) {
-        for (int what = 0; what < due.length; what++) {
-            due("at(" + tile + ", " + what + ")", x.at(tile, what), due[what]);
-        }
+        each("at(" + tile + ", ", what -> x.at(tile, what), due);
     }
 
     /** noteAt(k, 0), noteAt(k, 1) and so on. */
     void note(Counted x, int k, int... due) {
-        for (int what = 0; what < due.length; what++) {
-            due("noteAt(" + k + ", " + what + ")", x.noteAt(k, what), due[what]);
-        }
+        each("noteAt(" + k + ", ", what -> x.noteAt(k, what), due);
     }
 
     /** near(0), near(1) and so on. */
     void near(Counted x, int... due) {
-        for (int side = 0; side < due.length; side++) {
-            due("near(" + side + ")", x.near(side), due[side]);
+        each("near(", x::near, due);
+    }
+
+    private void each(String call, IntUnaryOperator made, int... due) {
+        for (int i = 0; i < due.length; i++) {
+            int last = i;
+            due(call + last + ")", answerOf(() -> made.applyAsInt(last)), Integer.toString(due[i]));
         }
     }
 

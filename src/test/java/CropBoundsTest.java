@@ -6,10 +6,6 @@ import java.util.function.ToIntFunction;
 public final class CropBoundsTest {
     private static final int MIN = Integer.MIN_VALUE;
     private static final int MAX = Integer.MAX_VALUE;
-    private static final String INDEX = "throws.IndexOutOfBoundsException";
-    private static final String ARGUMENT = "throws.IllegalArgumentException";
-    private static final String STATE = "throws.IllegalStateException";
-    private static final String NO_ROOM = "throws.UnsupportedOperationException";
     private static final Check check = new Check();
 
     public static void main(String[] args) {
@@ -20,6 +16,7 @@ public final class CropBoundsTest {
         promise5NotesAtTheBorders();
         promise5KeepTheirOrder();
         promise5NoneAndAllOfForty();
+        promise5MoreOfThemAfterwards();
         promise5BytesAndWaysStay();
         promise5OutsideThePicture();
         promise5NoSample();
@@ -187,6 +184,31 @@ public final class CropBoundsTest {
         check.due("a note more is the first", y.note(0, 0, 1), 1);
     }
 
+    /** What is new in the place of what went leaves the others alone. */
+    private static void promise5MoreOfThemAfterwards() {
+        check.promise(5, "what is outside goes, the others keep their order, and are numbered anew");
+        for (int gone = 0; gone <= 20; gone += 4) {
+            Counted x = new Counted(60, 2);
+            Made.fill(x, 40, 20);
+            check.due("crop", x.crop(gone, 0, 60 - gone, 2), 40 - gone);
+            for (int i = 0; i < gone; i++) {
+                check.due("tile", x.tile(i, 1, 1, 1), 40 - gone + i);
+                check.due("byteOf", x.byteOf(40 - gone + i, i), 1);
+                check.due("note", x.note(i, 1, 200 + i), 20 - gone + i + 1);
+            }
+            for (int i = 0; i < 40; i++) {
+                int late = i - (40 - gone);
+                check.due("x of tile " + i, x.at(i, 0), late < 0 ? i : late);
+                check.due("y of tile " + i, x.at(i, 1), late < 0 ? 0 : 1);
+                check.due("bytes of tile " + i, x.at(i, 5), late < 0 ? 0 : 1);
+            }
+            for (int i = 0; i < 20; i++) {
+                int late = i - (20 - gone);
+                check.note(x, i, late < 0 ? i : late, late < 0 ? 0 : 1, late < 0 ? i + gone : 200 + late);
+            }
+        }
+    }
+
     private static void promise5BytesAndWaysStay() {
         check.promise(5, "the others keep their order");
         for (int way = 0; way < 8; way++) {
@@ -279,8 +301,8 @@ public final class CropBoundsTest {
         int[][] wrong = {{0, 0, 0, 1}, {0, 0, 10, 1}, {-1, 0, 1, 1}, {MAX, 0, MAX, 1}, {0, 0, 1, MIN}};
         for (int[] w : wrong) {
             ToIntFunction<Counted> made = x -> x.crop(w[0], w[1], w[2], w[3]);
-            Everything.unchangedButNear(check, Made::rich, "crop that throws", made, ARGUMENT);
-            Everything.unchanged(check, Made::richAndQuiet, "crop that throws", made, ARGUMENT);
+            Everything.unchangedButNear(check, Made::rich, "crop that throws", made, Check.ARGUMENT);
+            Everything.unchanged(check, Made::richAndQuiet, "crop that throws", made, Check.ARGUMENT);
         }
         int[][] refused = {{1, 0, 8, 12}, {0, 1, 9, 11}, {0, 0, 7, 12}, {0, 0, 9, 5}, {8, 11, 1, 1}};
         for (int[] r : refused) {
@@ -289,7 +311,7 @@ public final class CropBoundsTest {
             Everything.unchangedButNear(check, Made::richAndQuiet, "crop that is refused", made, "-1");
         }
         Everything.unchanged(check, Made::full, "the same once more", x -> x.crop(0, 0, 40, 2), "-1");
-        Everything.unchangedButNear(check, Made::full, "crop that throws", x -> x.crop(0, 0, 51, 2), ARGUMENT);
+        Everything.unchangedButNear(check, Made::full, "crop that throws", x -> x.crop(0, 0, 51, 2), Check.ARGUMENT);
     }
 
     private static void promise5OtherAndStreamAndWayStay() {
@@ -347,7 +369,8 @@ public final class CropBoundsTest {
         for (int x = 0; x < 14; x++) {
             for (int right = x + 1; right <= 14; right++) {
                 for (int y = 0; y < 11; y++) {
-                    nearOfSomeTiles(x, y, right, y + 1 + (x + 3 * y + right) % (11 - y));
+                    int high = 1 + (x + 3 * y + right) % (11 - y);
+                    nearOfSomeTiles(x, y, right, y + high);
                 }
             }
         }
@@ -414,7 +437,7 @@ public final class CropBoundsTest {
     }
 
     private static void promise6OnlyThePicturesOwnBordersFit() {
-        check.promise(6, "an upright line before column c, 0 .. the width, or a level one before row c, 0 .. the height");
+        check.promise(6, "an upright line before column c, 0 .. the width, or a level one before row c");
         for (boolean wide : new boolean[] {true, false}) {
             Counted x = wide ? new Counted(200, 2) : new Counted(2, 200);
             x.join(wide ? 0 : 1);
@@ -556,21 +579,21 @@ public final class CropBoundsTest {
 
     private static void promise6NotChangedByWhatThrows() {
         check.promise(6, "A call that throws changes nothing");
-        keepsNear(Made::rich, x -> x.tile(0, 0, 0, 1), ARGUMENT);
-        keepsNear(Made::rich, x -> x.tile(8, 0, 1, 1), STATE);
-        keepsNear(Made::full, x -> x.tile(45, 0, 1, 1), NO_ROOM);
-        keepsNear(Made::rich, x -> x.turn(8), ARGUMENT);
-        keepsNear(Made::rich, x -> x.turn(-1), ARGUMENT);
-        keepsNear(Made::rich, x -> x.join(4), INDEX);
-        keepsNear(Made::unlike, x -> x.join(0), STATE);
-        keepsNear(Made::unlike, x -> x.join(1), STATE);
-        keepsNear(Made::full, x -> x.join(3), NO_ROOM);
-        keepsNear(() -> Made.longest(true), x -> x.join(0), NO_ROOM);
-        keepsNear(() -> Made.longest(false), x -> x.join(1), NO_ROOM);
-        keepsNear(Made::rich, x -> x.near(4), INDEX);
-        keepsNear(Made::rich, x -> x.byteOf(3, 0), INDEX);
-        keepsNear(Made::rich, x -> x.note(9, 0, 0), INDEX);
-        keepsNear(Made::rich, x -> x.streamAt(-1), INDEX);
+        keepsNear(Made::rich, x -> x.tile(0, 0, 0, 1), Check.ARGUMENT);
+        keepsNear(Made::rich, x -> x.tile(8, 0, 1, 1), Check.STATE);
+        keepsNear(Made::full, x -> x.tile(45, 0, 1, 1), Check.NO_ROOM);
+        keepsNear(Made::rich, x -> x.turn(8), Check.ARGUMENT);
+        keepsNear(Made::rich, x -> x.turn(-1), Check.ARGUMENT);
+        keepsNear(Made::rich, x -> x.join(4), Check.INDEX);
+        keepsNear(Made::unlike, x -> x.join(0), Check.STATE);
+        keepsNear(Made::unlike, x -> x.join(1), Check.STATE);
+        keepsNear(Made::full, x -> x.join(3), Check.NO_ROOM);
+        keepsNear(() -> Made.longest(true), x -> x.join(0), Check.NO_ROOM);
+        keepsNear(() -> Made.longest(false), x -> x.join(1), Check.NO_ROOM);
+        keepsNear(Made::rich, x -> x.near(4), Check.INDEX);
+        keepsNear(Made::rich, x -> x.byteOf(3, 0), Check.INDEX);
+        keepsNear(Made::rich, x -> x.note(9, 0, 0), Check.INDEX);
+        keepsNear(Made::rich, x -> x.streamAt(-1), Check.INDEX);
     }
 
     private static void promise6AskingChangesNothing() {
@@ -579,9 +602,9 @@ public final class CropBoundsTest {
             int s = side;
             String due = String.valueOf(Made.rich().near(s));
             Everything.unchanged(check, Made::rich, "near(" + s + ")", x -> x.near(s), due);
-            Everything.unchanged(check, Made::richAndQuiet, "near(" + s + ")", x -> x.near(s), STATE);
+            Everything.unchanged(check, Made::richAndQuiet, "near(" + s + ")", x -> x.near(s), Check.STATE);
         }
-        Everything.unchanged(check, Made::rich, "near(4)", x -> x.near(4), INDEX);
-        Everything.unchanged(check, Made::rich, "near(-1)", x -> x.near(-1), INDEX);
+        Everything.unchanged(check, Made::rich, "near(4)", x -> x.near(4), Check.INDEX);
+        Everything.unchanged(check, Made::rich, "near(-1)", x -> x.near(-1), Check.INDEX);
     }
 }

@@ -2,10 +2,6 @@
 public final class MakingBoundsTest {
     private static final int MIN = Integer.MIN_VALUE;
     private static final int MAX = Integer.MAX_VALUE;
-    private static final String INDEX = "throws.IndexOutOfBoundsException";
-    private static final String ARGUMENT = "throws.IllegalArgumentException";
-    private static final String STATE = "throws.IllegalStateException";
-    private static final String NO_ROOM = "throws.UnsupportedOperationException";
     private static final Check check = new Check();
 
     public static void main(String[] args) {
@@ -217,7 +213,7 @@ public final class MakingBoundsTest {
             common |= t.shown(x + i % w, y + i / w) != -1;
         }
         check.due("tile(" + x + ", " + y + ", " + w + ", " + h + ") beside (3, 4, 3, 2)",
-                Check.answerOf(() -> t.tile(x, y, w, h)), common ? STATE : "1");
+                Check.answerOf(() -> t.tile(x, y, w, h)), common ? Check.STATE : "1");
         check.due("tiles", t.told(2), common ? 1 : 2);
     }
 
@@ -302,15 +298,15 @@ public final class MakingBoundsTest {
 
     private static void promise2ChangesNothing() {
         check.promise(2, "A call that throws changes nothing");
-        Everything.unchanged(check, Made::rich, "tile(0, 0, 65, 1)", x -> x.tile(0, 0, 65, 1), ARGUMENT);
-        Everything.unchanged(check, Made::rich, "tile(0, 0, 1, 0)", x -> x.tile(0, 0, 1, 0), ARGUMENT);
-        Everything.unchanged(check, Made::rich, "tile(-1, 0, 1, 1)", x -> x.tile(-1, 0, 1, 1), ARGUMENT);
-        Everything.unchanged(check, Made::rich, "tile(MAX, 0, 1, 1)", x -> x.tile(MAX, 0, 1, 1), ARGUMENT);
+        Everything.unchanged(check, Made::rich, "tile(0, 0, 65, 1)", x -> x.tile(0, 0, 65, 1), Check.ARGUMENT);
+        Everything.unchanged(check, Made::rich, "tile(0, 0, 1, 0)", x -> x.tile(0, 0, 1, 0), Check.ARGUMENT);
+        Everything.unchanged(check, Made::rich, "tile(-1, 0, 1, 1)", x -> x.tile(-1, 0, 1, 1), Check.ARGUMENT);
+        Everything.unchanged(check, Made::rich, "tile(MAX, 0, 1, 1)", x -> x.tile(MAX, 0, 1, 1), Check.ARGUMENT);
         Everything.unchanged(check, Made::rich, "tile over another",
-                x -> x.tile(x.at(1, 0), x.at(1, 1), 1, 1), STATE);
-        Everything.unchanged(check, Made::full, "tile(49, 1, 1, 1)", x -> x.tile(49, 1, 1, 1), NO_ROOM);
-        Everything.unchanged(check, Made::full, "tile(0, 0, 1, 1)", x -> x.tile(0, 0, 1, 1), STATE);
-        Everything.unchanged(check, Made::full, "tile(50, 0, 1, 1)", x -> x.tile(50, 0, 1, 1), ARGUMENT);
+                x -> x.tile(x.at(1, 0), x.at(1, 1), 1, 1), Check.STATE);
+        Everything.unchanged(check, Made::full, "tile(49, 1, 1, 1)", x -> x.tile(49, 1, 1, 1), Check.NO_ROOM);
+        Everything.unchanged(check, Made::full, "tile(0, 0, 1, 1)", x -> x.tile(0, 0, 1, 1), Check.STATE);
+        Everything.unchanged(check, Made::full, "tile(50, 0, 1, 1)", x -> x.tile(50, 0, 1, 1), Check.ARGUMENT);
     }
 
     private static void promise3NoSuchTile() {
@@ -414,12 +410,12 @@ public final class MakingBoundsTest {
 
     private static void promise3ChangesNothing() {
         check.promise(3, "A call that throws changes nothing");
-        Everything.unchanged(check, Made::rich, "byteOf(3, 1)", x -> x.byteOf(3, 1), INDEX);
-        Everything.unchanged(check, Made::rich, "byteOf(-1, 1)", x -> x.byteOf(-1, 1), INDEX);
-        Everything.unchanged(check, Made::rich, "byteOf(0, 256)", x -> x.byteOf(0, 256), ARGUMENT);
-        Everything.unchanged(check, Made::rich, "byteOf(2, -1)", x -> x.byteOf(2, -1), ARGUMENT);
-        Everything.unchanged(check, Made::full, "byteOf(7, 1)", x -> x.byteOf(7, 1), NO_ROOM);
-        Everything.unchanged(check, Made::full, "byteOf(40, 1)", x -> x.byteOf(40, 1), INDEX);
+        Everything.unchanged(check, Made::rich, "byteOf(3, 1)", x -> x.byteOf(3, 1), Check.INDEX);
+        Everything.unchanged(check, Made::rich, "byteOf(-1, 1)", x -> x.byteOf(-1, 1), Check.INDEX);
+        Everything.unchanged(check, Made::rich, "byteOf(0, 256)", x -> x.byteOf(0, 256), Check.ARGUMENT);
+        Everything.unchanged(check, Made::rich, "byteOf(2, -1)", x -> x.byteOf(2, -1), Check.ARGUMENT);
+        Everything.unchanged(check, Made::full, "byteOf(7, 1)", x -> x.byteOf(7, 1), Check.NO_ROOM);
+        Everything.unchanged(check, Made::full, "byteOf(40, 1)", x -> x.byteOf(40, 1), Check.INDEX);
     }
 
     private static void promise4SamplesAtTheEdges() {
@@ -507,10 +503,10 @@ public final class MakingBoundsTest {
 
     private static void promise4ChangesNothing() {
         check.promise(4, "A call that throws changes nothing");
-        Everything.unchanged(check, Made::rich, "note(9, 0, 1)", x -> x.note(9, 0, 1), INDEX);
-        Everything.unchanged(check, Made::rich, "note(0, -1, 1)", x -> x.note(0, -1, 1), INDEX);
-        Everything.unchanged(check, Made::rich, "note(0, 0, 256)", x -> x.note(0, 0, 256), ARGUMENT);
-        Everything.unchanged(check, Made::rich, "note(0, 0, -1)", x -> x.note(0, 0, -1), ARGUMENT);
-        Everything.unchanged(check, Made::full, "note(49, 1, 1)", x -> x.note(49, 1, 1), NO_ROOM);
+        Everything.unchanged(check, Made::rich, "note(9, 0, 1)", x -> x.note(9, 0, 1), Check.INDEX);
+        Everything.unchanged(check, Made::rich, "note(0, -1, 1)", x -> x.note(0, -1, 1), Check.INDEX);
+        Everything.unchanged(check, Made::rich, "note(0, 0, 256)", x -> x.note(0, 0, 256), Check.ARGUMENT);
+        Everything.unchanged(check, Made::rich, "note(0, 0, -1)", x -> x.note(0, 0, -1), Check.ARGUMENT);
+        Everything.unchanged(check, Made::full, "note(49, 1, 1)", x -> x.note(49, 1, 1), Check.NO_ROOM);
     }
 }

@@ -5,10 +5,6 @@ import java.util.function.Supplier;
 public final class TurnAndJoinBoundsTest {
     private static final int MIN = Integer.MIN_VALUE;
     private static final int MAX = Integer.MAX_VALUE;
-    private static final String INDEX = "throws.IndexOutOfBoundsException";
-    private static final String ARGUMENT = "throws.IllegalArgumentException";
-    private static final String STATE = "throws.IllegalStateException";
-    private static final String NO_ROOM = "throws.UnsupportedOperationException";
     /** What each way does to the picture of 3 times 2 samples a b c over d e f, drawn by hand. */
     private static final String[][] DRAWN = {
         {"abc", "def"}, {"da", "eb", "fc"}, {"fed", "cba"}, {"cf", "be", "ad"},
@@ -27,6 +23,7 @@ public final class TurnAndJoinBoundsTest {
         promise7SinceItWasMade();
         promise7CropChangesNothingOfIt();
         promise7SinceItWasJoinedOrSwapped();
+        promise7ToTheLastCall();
         promise7ChangesNothing();
         promise8NoneAndForty();
         promise8TwiceIsNothing();
@@ -307,10 +304,29 @@ public final class TurnAndJoinBoundsTest {
         check.due("changes nothing of it", x.turn(0), 5);
     }
 
+    private static void promise7ToTheLastCall() {
+        check.promise(7, "An object is used for at most 512 calls after it has been made");
+        Counted x = new Counted(7, 5);
+        x.tile(1, 2, 3, 2);
+        x.note(6, 4, 1);
+        int turns = 0;
+        while (x.callsLeft() > 14) {
+            turns++;
+            check.due("turn " + turns, x.turn(3), 3 * turns % 4);
+        }
+        check.due("turns", turns, 496);
+        check.at(x, 0, 1, 2, 3, 2, 0, 0, 3, 2);
+        check.note(x, 0, 6, 4, 1);
+        check.due("turn", x.turn(7), 7);
+        check.due("shown", x.shown(2, 1), 0);
+        check.due("the last call", x.write(), 8 + 2 + 5 + 12);
+        check.due("calls left", x.callsLeft(), 0);
+    }
+
     private static void promise7ChangesNothing() {
         check.promise(7, "A call that throws changes nothing");
         for (int way : new int[] {-1, 8, MIN, MAX}) {
-            Everything.unchanged(check, Made::rich, "turn(" + way + ")", x -> x.turn(way), ARGUMENT);
+            Everything.unchanged(check, Made::rich, "turn(" + way + ")", x -> x.turn(way), Check.ARGUMENT);
         }
     }
 
@@ -447,7 +463,7 @@ public final class TurnAndJoinBoundsTest {
                 Counted x = two(s[0], s[1]);
                 boolean alike = side % 2 == 0 ? s[1] == 2 : s[0] == 3;
                 check.due("join(" + side + ") of " + s[0] + " times " + s[1],
-                        Check.answerOf(() -> x.join(to)), alike ? "2" : STATE);
+                        Check.answerOf(() -> x.join(to)), alike ? "2" : Check.STATE);
                 check.due("tiles", x.told(2), alike ? 2 : 1);
             }
         }
@@ -502,7 +518,7 @@ public final class TurnAndJoinBoundsTest {
                     Counted x = twoLong(wide, s[0], s[1]);
                     boolean room = s[0] + s[1] <= 400;
                     check.due("join(" + side + ") of " + s[0] + " and " + s[1],
-                            Check.answerOf(() -> x.join(side)), room ? "0" : NO_ROOM);
+                            Check.answerOf(() -> x.join(side)), room ? "0" : Check.NO_ROOM);
                     check.due("size", x.told(wide ? 0 : 1), room ? s[0] + s[1] : s[0]);
                     check.due("size the other way", x.told(wide ? 1 : 0), 2);
                 }
@@ -550,7 +566,7 @@ public final class TurnAndJoinBoundsTest {
                 Made.fill(x, t[0], 0);
                 boolean room = t[0] + t[1] <= 40;
                 check.due(t[0] + " and " + t[1] + " tiles", Check.answerOf(() -> x.join(to)),
-                        room ? "40" : NO_ROOM);
+                        room ? "40" : Check.NO_ROOM);
                 check.due("tiles", x.told(2), room ? 40 : t[0]);
                 check.due("tiles of the other one", x.told(7), room ? 0 : t[1]);
                 for (int i = 0; room && i < 40; i++) {
@@ -574,7 +590,8 @@ public final class TurnAndJoinBoundsTest {
                 x.swap();
                 Made.fill(x, 2, n[0]);
                 boolean room = n[0] + n[1] <= 20;
-                check.due(n[0] + " and " + n[1] + " notes", Check.answerOf(() -> x.join(to)), room ? "3" : NO_ROOM);
+                check.due(n[0] + " and " + n[1] + " notes", Check.answerOf(() -> x.join(to)),
+                        room ? "3" : Check.NO_ROOM);
                 check.due("notes", x.told(3), room ? 20 : n[0]);
                 check.due("notes of the other one", x.told(8), room ? 0 : n[1]);
                 check.due("tiles of the other one", x.told(7), room ? 0 : 1);
@@ -605,6 +622,35 @@ public final class TurnAndJoinBoundsTest {
             check.told(x, 50, 50, 40, 20, 0, side % 2 == 0 ? 100 : 50, side % 2 == 0 ? 50 : 100, 40, 20);
             check.at(x, 39, 39, 0, 1, 1, 0, 0, 1, 1);
             check.note(x, 19, 19, 0, 19);
+            x.swap();
+            for (int i = 0; i < 40; i++) {
+                int at = i >= 20 ? 2 : 0;
+                check.due("x of tile " + i, x.at(i, 0), i % 20 + (side == at ? 50 : 0));
+                check.due("y of tile " + i, x.at(i, 1), side == at + 1 ? 50 : 0);
+            }
+        }
+        promise9OtherIsFilledAnew();
+    }
+
+    /** What is new in the emptied one leaves alone what came from there. */
+    private static void promise9OtherIsFilledAnew() {
+        Counted x = new Counted(50, 50);
+        Made.fill(x, 3, 5);
+        x.swap();
+        check.due("join", x.join(2), 3);
+        x.swap();
+        for (int i = 0; i < 20; i++) {
+            x.tile(10 + i, 10, 1, 1);
+            x.byteOf(i, i);
+            x.note(i, 49, 100 + i);
+        }
+        x.turn(3);
+        x.swap();
+        for (int i = 0; i < 3; i++) {
+            check.at(x, i, 50 + i, 0, 1, 1, 0, 0, 1, 1);
+        }
+        for (int i = 0; i < 5; i++) {
+            check.note(x, i, 50 + i, 0, i);
         }
     }
 
@@ -683,17 +729,18 @@ public final class TurnAndJoinBoundsTest {
     private static void promise9ChangesNothing() {
         check.promise(9, "A call that throws changes nothing");
         for (int side : new int[] {-1, 4, MIN, MAX}) {
-            Everything.unchanged(check, Made::rich, "join(" + side + ")", x -> x.join(side), INDEX);
+            Everything.unchanged(check, Made::rich, "join(" + side + ")", x -> x.join(side), Check.INDEX);
         }
         for (int side = 0; side < 4; side++) {
             int to = side;
-            Everything.unchanged(check, Made::unlike, "join(" + to + ")", x -> x.join(to), STATE);
-            Everything.unchanged(check, Made::full, "join(" + to + ")", x -> x.join(to), NO_ROOM);
+            Everything.unchanged(check, Made::unlike, "join(" + to + ")", x -> x.join(to), Check.STATE);
+            Everything.unchanged(check, Made::full, "join(" + to + ")", x -> x.join(to), Check.NO_ROOM);
             Everything.unchanged(check, () -> Made.longest(true), "join(" + to + ")", x -> x.join(to),
-                    to % 2 == 0 ? NO_ROOM : STATE);
+                    to % 2 == 0 ? Check.NO_ROOM : Check.STATE);
             Everything.unchanged(check, () -> Made.longest(false), "join(" + to + ")", x -> x.join(to),
-                    to % 2 == 0 ? STATE : NO_ROOM);
-            Everything.unchanged(check, TurnAndJoinBoundsTest::manyNotes, "join(" + to + ")", x -> x.join(to), NO_ROOM);
+                    to % 2 == 0 ? Check.STATE : Check.NO_ROOM);
+            Everything.unchanged(check, TurnAndJoinBoundsTest::manyNotes, "join(" + to + ")", x -> x.join(to),
+                    Check.NO_ROOM);
         }
     }
 
