@@ -5,9 +5,12 @@ import java.lang.reflect.Method;
 import java.lang.reflect.Modifier;
 import java.nio.file.Files;
 import java.nio.file.Path;
+import java.util.ArrayList;
 import java.util.Arrays;
 import java.util.List;
 import java.util.TreeSet;
+import java.util.regex.Matcher;
+import java.util.regex.Pattern;
 
 /** The face of the class is the document's, and its source keeps clear of what the rules forbid. */
 public final class FaceTest {
@@ -33,12 +36,20 @@ public final class FaceTest {
             "int pointer 1 " + I,
             "int told 1",
             "void clear 0");
+    private static final Path SOURCE = Path.of("src/main/java/LossFreeTools.java");
+    private static final int CLASSES_MAX = 12;
+    private static final int FIELDS_MAX = 20;
+    private static final int PARAMETERS_MAX = 7;
+    private static final int LINES_MAX = 60;
     private static final Check check = new Check();
 
     public static void main(String[] args) throws IOException {
         methods();
         otherMembers();
         source();
+        thrown();
+        sizes();
+        methodLengths();
         check.end();
     }
 
@@ -93,10 +104,74 @@ public final class FaceTest {
     }
 
     private static void source() throws IOException {
-        String text = Files.readString(Path.of("src/main/java/LossFreeTools.java"));
+        String text = Files.readString(SOURCE);
         for (String word : List.of("import ", "package ", "try {", "catch", "finally", "synchronized",
                 "assert ", "->", "::", "Exact", "static {", "java.")) {
             check.due("'" + word + "' in the source", text.indexOf(word), -1);
         }
+    }
+
+    /** Rule 6: one of the face's exceptions, with a written text. */
+    private static void thrown() throws IOException {
+        Pattern written = Pattern.compile(
+                "throw new (" + String.join("|", I, A, S, U) + ")\\(\"[a-z ]+\"\\);");
+        for (String line : Files.readAllLines(SOURCE)) {
+            if (line.contains("throw ")) {
+                check.due(line.trim(), String.valueOf(written.matcher(line.trim()).matches()), "true");
+            }
+        }
+    }
+
+    /** Rules 5 and 11: no static state, few classes, fields and parameters. */
+    private static void sizes() {
+        List<Class<?>> classes = allClasses();
+        atMost("classes", classes.size(), CLASSES_MAX);
+        for (Class<?> c : classes) {
+            int fields = 0;
+            for (Field f : c.getDeclaredFields()) {
+                boolean constant = Modifier.isStatic(f.getModifiers());
+                fields += constant ? 0 : 1;
+                check.due(f + " is a constant int or none", String.valueOf(!constant
+                        || Modifier.isFinal(f.getModifiers()) && f.getType() == int.class), "true");
+            }
+            atMost("fields of " + c.getSimpleName(), fields, FIELDS_MAX);
+            for (Method m : c.getDeclaredMethods()) {
+                atMost("parameters of " + m.getName(), m.getParameterCount(), PARAMETERS_MAX);
+            }
+        }
+    }
+
+    private static List<Class<?>> allClasses() {
+        List<Class<?>> classes = new ArrayList<>(List.of(LossFreeTools.class.getDeclaredClasses()));
+        classes.add(LossFreeTools.class);
+        return classes;
+    }
+
+    /** Rule 11: a method ends with a brace that stands as far in as its first line. */
+    private static void methodLengths() throws IOException {
+        List<String> lines = Files.readAllLines(SOURCE);
+        Pattern head = Pattern.compile("( {4}| {8})[a-zA-Z][\\w \\[\\]]*\\(.*");
+        int methods = 0;
+        for (int i = 0; i < lines.size(); i++) {
+            Matcher m = head.matcher(lines.get(i));
+            boolean begins = m.matches() && !lines.get(i).contains(";")
+                    && !lines.get(i).trim().matches("(if|for|while|switch|return) ?\\(.*");
+            if (begins) {
+                methods++;
+                int end = lines.subList(i, lines.size()).indexOf(m.group(1) + "}");
+                check.due("'" + lines.get(i).trim() + "' ends", String.valueOf(end > 0), "true");
+                atMost("lines of '" + lines.get(i).trim() + "'", end + 1, LINES_MAX);
+            }
+        }
+        int made = 0;
+        for (Class<?> c : allClasses()) {
+            made += c.getDeclaredMethods().length;
+        }
+        // Constructors are found too, so there may be more.
+        check.due(methods + " methods are found of " + made, String.valueOf(methods >= made), "true");
+    }
+
+    private static void atMost(String what, int got, int most) {
+        check.due(what + ", " + got + ", are at most " + most, String.valueOf(got <= most), "true");
     }
 }

@@ -9,6 +9,7 @@ public final class MakingBoundsTest {
         promise1SizesThatAreNot();
         promise1SizesBindBothPictures();
         promise1Empty();
+        promise1ObjectsApart();
         promise2LeastAndGreatestTile();
         promise2TileOfNoSuchSize();
         promise2TileAtThePicturesEdges();
@@ -92,6 +93,37 @@ public final class MakingBoundsTest {
             check.due("turn(0)", x.turn(0), 0);
             x.swap();
         }
+    }
+
+    /** What is done with one object is nothing to another one, made before it or after it. */
+    private static void promise1ObjectsApart() {
+        check.promise(1, "Both PICTURES have a width and a height, no tiles, no notes");
+        Everything.compare(check, "among others", Everything.of(MakingBoundsTest::richAmongOthers),
+                Everything.of(Made::rich));
+        Everything.compare(check, "new among others", Everything.of(MakingBoundsTest::newAmongOthers),
+                Everything.of(() -> new Counted(12, 9)));
+    }
+
+    private static Counted richAmongOthers() {
+        Counted before = new Counted(200, 200);
+        Counted x = Made.rich();
+        before.tile(0, 0, 64, 64);
+        before.turn(3);
+        before.crop(0, 0, 20, 20);
+        Counted after = Made.full();
+        after.write();
+        Made.unlike().clear();
+        return x;
+    }
+
+    private static Counted newAmongOthers() {
+        Counted before = Made.full();
+        before.write();
+        Counted x = new Counted(12, 9);
+        before.turn(1);
+        before.crop(0, 0, 1, 5);
+        Made.rich().write();
+        return x;
     }
 
     private static void promise2LeastAndGreatestTile() {
